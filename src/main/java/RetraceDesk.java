@@ -547,7 +547,6 @@ public final class RetraceDesk {
             latestGroup = NONE;
         }
 
-        @Override
         boolean takesLine() {
             if (isDone() || isAtComment()) {
                 return true;
@@ -781,7 +780,6 @@ public final class RetraceDesk {
             frameCount = 0;
         }
 
-        @Override
         boolean takesLine() {
             if (headerCount == 0 || takeWord(CAUSE_START)) {
                 return takesHeader();

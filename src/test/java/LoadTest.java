@@ -27,6 +27,7 @@ public final class LoadTest {
         right("a -> b:", 0);
         right("a -> b:\nb -> a:\nc -> c:\n", 0);
         right("_a$1.B2 -> $:\n", 0);
+        right("azAZ_$09 -> _09azAZ$:\n", 0);
         right(NAME_OF_40 + " -> " + "s".repeat(40) + ":", 0);
         wrongAt(NAME_OF_40 + "c -> b:", 1);
         wrongAt("a -> " + NAME_OF_40 + "c:", 1);
@@ -116,6 +117,12 @@ public final class LoadTest {
         wrongAt("a -> b:\n" + methods + "    m -> n\n", 34);
         String halves = "    m -> n\n".repeat(16);
         wrongAt("a -> b:\n" + halves + "c -> d:\n" + halves + "#\n    m -> n", 36);
+        Probe probe = new Probe();
+        String full = "a -> b:\n#" + "x".repeat(580) + "\n    m -> n";
+        for (int i = 0; i < 3; i++) {
+            Probe.same("load() of 600 characters", probe.load(full), "1");
+            probe.retraces("a\n\tat b.n(S)", "1", "a\n\tat a.m(a.java)\n");
+        }
     }
 
     private static void groupsOfLines() {
@@ -159,6 +166,22 @@ public final class LoadTest {
         Probe.same("groups(0) of none", Probe.answer(() -> probe.desk.groups(0)),
                 Probe.NO_SUCH_ELEMENT);
         probe.retraces("x", "0", "x\n");
+        nothingIsLeftOfOlderOnes();
+    }
+
+    private static void nothingIsLeftOfOlderOnes() {
+        Probe probe = new Probe();
+        probe.load("A -> x:\n    m -> n\n    1:1:A.o:5 -> p\n    A.q -> r\nB -> y:\n    m -> n");
+        probe.load("");
+        probe.load("A -> x:\n");
+        probe.retraces("y\n\tat x.n(S)\n\tat x.p(S:1)\n\tat y.n(S)", "3",
+                "y\n\tat A.n(A.java)\n\tat A.p(A.java:1)\n\tat y.n(S)\n");
+        probe.shortens("B\n\tat A.m(S)\n\tat A.o(S:5)\n\tat A.q(S)\n\tat B.m(S)", "4",
+                "B\n\tat x.m(SourceFile)\n\tat x.o(SourceFile:5)\n\tat x.q(SourceFile)\n"
+                + "\tat B.m(S)\n");
+        probe.load("A -> x:\n    m -> n\n");
+        probe.shortens("B\n\tat A.m(S)\n\tat A.o(S:5)\n\tat A.q(S)", "3",
+                "B\n\tat x.n(SourceFile)\n\tat x.o(SourceFile:5)\n\tat x.q(SourceFile)\n");
     }
 
     private static void wrongStays() {

@@ -49,6 +49,9 @@ public final class RetraceTest {
                 "y\n\tat a.Util.help(Util.java:7)\n\tat b.Big.go(Big.java:70)\n");
         probe.retraces("y\n\tat x.b.a(S:10)", "1", "y\n\tat a.Util.other(Util.java:1)\n");
         probe.retraces("y\n\tat c.a(S:2)", "1", "y\n\tat b.$Big$In.go($Big.java:2)\n");
+        probe.load("A -> x:\n    1:1:m -> n\nB -> y:\n    2:2:p -> n");
+        probe.retraces("z\n\tat x.n(S:2)\n\tat y.n(S:1)", "2",
+                "z\n\tat A.m(A.java:2)\n\tat B.p(B.java:1)\n");
     }
 
     private static void placesWithoutRange() {
@@ -111,7 +114,8 @@ public final class RetraceTest {
             "\tat b.c(Unknown)x", "\tat b.c(D) ", "\tat  b.c(D)", "\tat b.c (D)", "\tatb.c(D)",
             "\tat b.c(D:1", "\tat b.c(D:x)", "\tat b.c(native method)", "\tat b.1c(D)",
             "\tat " + "b".repeat(20) + "." + "c".repeat(20) + "(D)",
-            "\tat b.c(" + "D".repeat(41) + ")", "\tat b.c(D." + "e".repeat(41) + ")",
+            "\tat b.c(" + "D".repeat(41) + ")", "\tat b.c(" + "D".repeat(41) + ".e)",
+            "\tat b.c(D." + "e".repeat(41) + ")",
             "\t... more", "\t...1 more", "\t... 01 more", "\t... 10000 more", "\t... 1 more ",
             "\t... 1", "... 1 more", "Caused by: ", "Caused by: a:", "Caused by:a",
             "Caused by: Caused by: a", "\tCaused by: a"};
@@ -131,6 +135,10 @@ public final class RetraceTest {
         probe.load("");
         String longCall = "\tat " + "b".repeat(20) + "." + "c".repeat(19) + "(D)\n";
         probe.retraces("a\n" + longCall, "1", "a\n" + longCall);
+        String longClass = "b".repeat(20) + "." + "c".repeat(19);
+        probe.retraces(longClass + ": d\nCaused by: " + longClass, "0",
+                longClass + ": d\nCaused by: " + longClass + "\n");
+        Probe.isNoTrace("a\nCaused by: " + longClass + "c", 2);
         String longFile = "\tat b.c(" + "D".repeat(40) + "." + "e".repeat(40) + ":9999)\n";
         probe.retraces("a\n" + longFile, "1", "a\n" + longFile);
         String frames = "\tat b.c(D:0)\n".repeat(20);
@@ -153,6 +161,7 @@ public final class RetraceTest {
         Probe.same("length()", probe.desk.length(), size);
         String full = start + "\t... 1 more\nCaused by: " + "y".repeat(1000 - size - 12 - 12) + "\n";
         Probe.same("a print of 1000", probe.retrace(full), "10");
+        Probe.same("another print of 1000", probe.retrace(full), "10");
         Probe.same("length() of it", probe.desk.length(), 1000);
         String print = probe.print();
         probe.type(full.replace("1 more", "10 more"));
