@@ -6,6 +6,7 @@ import java.util.function.IntSupplier;
 /** All promises: random runs of calls, the same every time, on a desk and on the plain model. */
 public final class ModelTest {
     private static final int RUNS = 20000;
+    private static final int MOST_TO_COMPARE = 40;
     private static final String[] REALS = {"A", "B", "a.Main", "a.Main$In", "$C", "b.D1", "e.F_2",
         "a.very.long.pack.of.parts.and.TheClass$X", "x.a", "c"};
     private static final String[] BRIEFS = {"x.a", "x.b", "c", "d", "A", "a.a", "q7", "z.z.z", "B"};
@@ -19,12 +20,14 @@ public final class ModelTest {
     private final RetraceDesk desk = new RetraceDesk();
     private final PlainModel model = new PlainModel();
     private final StringBuilder story = new StringBuilder();
+    private int calls = 0;
 
     private ModelTest(long seed) {
         random = new Random(seed);
     }
 
     public static void main(String[] args) {
+        Probe.sentence("All promises, in random runs");
         int[] kinds = new int[4];
         for (int run = 0; run < RUNS; run++) {
             new ModelTest(run).play(kinds);
@@ -39,25 +42,35 @@ public final class ModelTest {
     private void play(int[] kinds) {
         int steps = 3 + random.nextInt(12);
         boolean isLate = random.nextInt(10) == 0;
-        for (int step = 0; step < steps; step++) {
+        boolean goesOn = true;
+        for (int step = 0; step < steps && goesOn; step++) {
             int what = step == 0 && !isLate ? 0 : random.nextInt(10);
             if (what < 2) {
-                compare("load", mapping(), desk::load, model::load, kinds);
+                goesOn = compare("load", mapping(), RetraceDesk::load, model::load, kinds);
             } else if (what < 5) {
-                compare("retrace", trace(BRIEFS), desk::retrace, model::retrace, kinds);
+                goesOn = compare("retrace", trace(BRIEFS), RetraceDesk::retrace, model::retrace, kinds);
             } else if (what < 7) {
-                compare("shorten", trace(REALS), desk::shorten, model::shorten, kinds);
+                goesOn = compare("shorten", trace(REALS), RetraceDesk::shorten, model::shorten, kinds);
             } else if (what < 8 && random.nextInt(3) == 0) {
-                desk.scrap();
+                ask(d -> {
+                    d.scrap();
+                    return "";
+                });
                 model.draft = "";
             } else if (what < 8) {
-                compare("shorten", model.print.length() > 600 ? "a" : model.print, desk::shorten,
-                        model::shorten, kinds);
+                goesOn = compare("shorten", model.print.length() > 600 ? "a" : model.print,
+                        RetraceDesk::shorten, model::shorten, kinds);
             } else {
-                compare("report", random.nextBoolean() ? trace(BRIEFS) : pick(REALS) + ": "
-                        + pick(METHODS), desk::report, model::report, kinds);
+                goesOn = compare("report", random.nextBoolean() ? trace(BRIEFS) : pick(REALS) + ": "
+                        + pick(METHODS), RetraceDesk::report, model::report, kinds);
             }
-            compareState();
+            if (goesOn) {
+                compareState();
+            }
+        }
+        int start = random.nextInt(model.print.length() + 1);
+        for (int i = 0; i < model.print.length() && calls < Probe.MOST_CALLS; i++) {
+            compareCharacter((start + i) % model.print.length());
         }
     }
 
@@ -65,64 +78,83 @@ public final class ModelTest {
         return all[random.nextInt(all.length)];
     }
 
-    private void compare(String name, String text, IntSupplier call, IntSupplier due, int[] kinds) {
+    private String ask(Probe.Call call) {
+        calls++;
+        return Probe.answer(desk, call);
+    }
+
+    /** Answers false when the desk has had nearly as many calls as it may. */
+    private boolean compare(String name, String text, Probe.Call call, IntSupplier due, int[] kinds) {
         String draft = random.nextInt(12) == 0 ? spoiled(text) : text;
+        List<String> pieces = new ArrayList<>();
         for (int i = 0; i < draft.length();) {
-            int n = Math.min(1 + random.nextInt(8), draft.length() - i);
-            long codes = Probe.codes(draft.substring(i, i + n));
-            if (n < 8) {
-                codes |= random.nextLong() << (8 * n);
-            }
-            check("put", desk.put(n, codes), model.put(n, codes));
+            int n = random.nextInt(3) > 0 ? 8 : 1 + random.nextInt(8);
+            pieces.add(draft.substring(i, Math.min(i + n, draft.length())));
             i += n;
         }
+        if (calls + pieces.size() + MOST_TO_COMPARE > Probe.MOST_CALLS) {
+            return false;
+        }
+        for (String piece : pieces) {
+            int n = piece.length();
+            long codes = n == 8 ? Probe.codes(piece)
+                    : Probe.codes(piece) | random.nextLong() << (8 * n);
+            check("put", ask(d -> d.put(n, codes)), Boolean.toString(model.put(n, codes)));
+        }
         story.append("--- ").append(name).append('\n').append(draft).append("|\n");
-        String got = outcome(call);
-        kinds[got.matches("-?[0-9]+") ? 0 : got.equals("wrong") ? 1 : got.equals("state") ? 2 : 3]++;
+        String got = ask(call);
+        kinds[got.matches("-?[0-9]+") ? 0 : got.equals(Probe.ILLEGAL_ARGUMENT) ? 1
+                : got.equals(Probe.ILLEGAL_STATE) ? 2 : 3]++;
         check(name, got, outcome(due));
+        return true;
     }
 
     private static String outcome(IntSupplier call) {
         try {
             return Integer.toString(call.getAsInt());
-        } catch (PlainModel.WrongLine | IllegalArgumentException e) {
-            return "wrong";
+        } catch (PlainModel.WrongLine e) {
+            return Probe.ILLEGAL_ARGUMENT;
         } catch (IllegalStateException e) {
-            return "state";
-        } catch (RuntimeException e) {
-            return e.toString();
+            return Probe.ILLEGAL_STATE;
         }
     }
 
-    private void check(String what, Object got, Object due) {
-        if (!got.equals(due)) {
-            Probe.same(story + what, got, due);
+    private void check(String what, String got, Object due) {
+        if (!got.equals(due.toString())) {
+            Probe.same(story + what, got, due.toString());
         }
     }
 
+    private void compareCharacter(int i) {
+        check("at(" + i + ")", ask(d -> d.at(i)), (int) model.print.charAt(i));
+    }
+
+    /** One call of each kind, but a few for the print: the rest of it is read at the end of the run. */
     private void compareState() {
-        StringBuilder print = new StringBuilder();
-        for (int i = 0; i < desk.length(); i++) {
-            print.append((char) desk.at(i));
+        check("wrong()", ask(RetraceDesk::wrong), model.wrong);
+        check("doubtful()", ask(RetraceDesk::doubtful), model.doubtful);
+        check("length()", ask(RetraceDesk::length), model.print.length());
+        check("at()", ask(d -> d.at(model.print.length())), Probe.OUT_OF_BOUNDS);
+        for (int i = 0; i < 8 && !model.print.isEmpty(); i++) {
+            compareCharacter(random.nextInt(model.print.length()));
         }
-        check("print", print.toString(), model.print);
-        check("wrong()", desk.wrong(), model.wrong);
-        check("doubtful()", desk.doubtful(), model.doubtful);
-        check("crashes()", desk.crashes(), model.crashes.size());
+        check("crashes()", ask(RetraceDesk::crashes), model.crashes.size());
         List<Long> keys = new ArrayList<>(model.crashes.keySet());
-        for (int crash = 0; crash < keys.size(); crash++) {
-            int number = crash;
-            check("key()", Probe.longAnswer(() -> desk.key(number)), keys.get(crash).toString());
-            for (int which = 0; which < 3; which++) {
-                check("reports()", desk.reports(crash, which),
+        if (!keys.isEmpty()) {
+            int crash = random.nextInt(keys.size());
+            check("key()", ask(d -> d.key(crash)), keys.get(crash));
+            for (int i = 0; i < 3; i++) {
+                int which = i;
+                check("reports()", ask(d -> d.reports(crash, which)),
                         model.crashes.get(keys.get(crash))[which]);
             }
         }
         int lines = model.classes == null ? 0 : model.classes.size();
-        for (int line = 0; line < lines; line++) {
-            check("groups()", desk.groups(line), model.groupsOf(line));
+        for (int i = 0; i < lines; i++) {
+            int line = i;
+            check("groups()", ask(d -> d.groups(line)), model.groupsOf(line));
         }
-        check("groups()", Probe.answer(() -> desk.groups(lines)), Probe.NO_SUCH_ELEMENT);
+        check("groups()", ask(d -> d.groups(lines)), Probe.NO_SUCH_ELEMENT);
     }
 
     private String spoiled(String text) {

@@ -1,4 +1,6 @@
-/** Promises 5, 8, 9, 10 and 11: retrace, wrong, length, at and doubtful. */
+import java.util.Map;
+
+/** Promises 5 and 11, and what the terms say of retracing. */
 public final class RetraceTest {
     private static final String MAPPING = "a.Main -> x.a:\n    1:3:run:10:12 -> a\n"
             + "    4:4:a.Util$In.help:7 -> a\n    4:4:run:13 -> a\n    stop -> b\n    start -> b\n"
@@ -7,190 +9,315 @@ public final class RetraceTest {
 
     public static void main(String[] args) {
         headers();
-        ranges();
-        placesWithoutRange();
-        doubtfulFrames();
-        filesOfClasses();
-        wrongTraces();
-        limits();
-        printsTooLong();
-        charactersOfThePrint();
+        messagesAndMoreLines();
+        framesOfOtherClasses();
+        shortMethods();
+        edgesOfRange();
+        firstGroupWithTheLine();
+        oneFrameForEachLine();
+        realLines();
+        frameWithoutLine();
+        lineInNoRange();
+        noSuchGroup();
+        placeStays();
+        doubtfulByClassOrMethod();
+        notDoubtful();
+        doubtfulIsCounted();
+        files();
+        answers();
+        nothingIsLeftOfOlderTraces();
         Probe.finish("RetraceTest");
     }
 
     private static Probe loaded() {
-        Probe probe = new Probe();
-        Probe.same("load()", probe.load(MAPPING), "9");
-        return probe;
+        return Probe.loaded(MAPPING);
+    }
+
+    private static void frame(String mapping, String frame, String... due) {
+        StringBuilder print = new StringBuilder("h\n");
+        for (String line : due) {
+            print.append("\tat ").append(line).append('\n');
+        }
+        Probe.loaded(mapping).retraces("h\n\tat " + frame, Integer.toString(due.length),
+                print.toString());
     }
 
     private static void headers() {
+        Probe.sentence("Retracing: a header's class that is the short one of a class line becomes its"
+                + " real one");
         Probe probe = loaded();
         probe.retraces("x.a", "0", "a.Main\n");
         probe.retraces("x.a\n", "0", "a.Main\n");
+        for (String other : new String[] {"x", "a", "x.aa", "xx.a", "x.a.a", "X.a", "x.a$", "a.Main",
+            "b.$Big$In"}) {
+            probe.retraces(other, "0", other + "\n");
+        }
+        probe.retraces("y\nCaused by: c: c\nCaused by: x.b\nCaused by: z", "0",
+                "y\nCaused by: b.$Big$In: c\nCaused by: a.Util\nCaused by: z\n");
+    }
+
+    private static void messagesAndMoreLines() {
+        Probe.sentence("Retracing: messages and more lines stay");
+        Probe probe = loaded();
         probe.retraces("x.a: ", "0", "a.Main: \n");
+        probe.retraces("x.a: x.a", "0", "a.Main: x.a\n");
         probe.retraces("x.a: x.b: c", "0", "a.Main: x.b: c\n");
-        probe.retraces("x.a: \tat ~!", "0", "a.Main: \tat ~!\n");
-        probe.retraces("x.aa", "0", "x.aa\n");
-        probe.retraces("a.Main", "0", "a.Main\n");
-        probe.retraces("y\n\t... 0 more\nCaused by: c: c\n\t... 9999 more\nCaused by: x.b\n"
-                + "Caused by: z: \n", "0",
-                "y\n\t... 0 more\nCaused by: b.$Big$In: c\n\t... 9999 more\nCaused by: a.Util\n"
-                + "Caused by: z: \n");
+        probe.retraces("x.a: \tat x.a.a(S:1)", "0", "a.Main: \tat x.a.a(S:1)\n");
+        probe.retraces("y\n\t... 0 more\nCaused by: c: 1\n\t... 9999 more\nCaused by: z: \n", "0",
+                "y\n\t... 0 more\nCaused by: b.$Big$In: 1\n\t... 9999 more\nCaused by: z: \n");
     }
 
-    private static void ranges() {
+    private static void framesOfOtherClasses() {
+        Probe.sentence("Retracing: a frame whose class is not short stays as it is");
         Probe probe = loaded();
-        probe.retraces("y\n\tat x.a.a(S:1)\n\tat x.a.a(S.t:3)", "2",
-                "y\n\tat a.Main.run(Main.java:10)\n\tat a.Main.run(Main.java:12)\n");
-        probe.retraces("y\n\tat x.a.a(S:4)", "2",
-                "y\n\tat a.Util$In.help(Util.java:7)\n\tat a.Main.run(Main.java:13)\n");
-        probe.retraces("y\n\tat x.b.a(S:7)", "2",
-                "y\n\tat a.Util.help(Util.java:7)\n\tat b.Big.go(Big.java:70)\n");
-        probe.retraces("y\n\tat x.b.a(S:10)", "1", "y\n\tat a.Util.other(Util.java:1)\n");
-        probe.retraces("y\n\tat c.a(S:2)", "1", "y\n\tat b.$Big$In.go($Big.java:2)\n");
-        probe.load("A -> x:\n    1:1:m -> n\nB -> y:\n    2:2:p -> n");
-        probe.retraces("z\n\tat x.n(S:2)\n\tat y.n(S:1)", "2",
-                "z\n\tat A.m(A.java:2)\n\tat B.p(B.java:1)\n");
+        for (String frame : new String[] {"q.b.a(S.t:4)", "q.b.a(S)", "q.b.a(Native Method)",
+            "q.b.a(Unknown Source)", "a.Main.run(S:10)", "x.a(S:1)", "x.a.a.a(S:1)", "x.aa.a(S:1)",
+            "X.a.a(S:1)"}) {
+            probe.retraces("y\n\tat " + frame, "1", "y\n\tat " + frame + "\n");
+        }
+        Probe.same("doubtful()", probe.doubtful(), "0");
     }
 
-    private static void placesWithoutRange() {
-        Probe probe = loaded();
-        probe.retraces("y\n\tat x.a.a(S:5)", "1", "y\n\tat a.Main.run(Main.java:5)\n");
-        probe.retraces("y\n\tat x.a.a(S:0)", "1", "y\n\tat a.Main.run(Main.java:0)\n");
-        probe.retraces("y\n\tat x.a.a(S)", "1", "y\n\tat a.Main.run(Main.java)\n");
-        probe.retraces("y\n\tat x.b.a(S)", "1", "y\n\tat b.Big.go(Big.java)\n");
-        probe.retraces("y\n\tat x.b.a(S.t:21)", "1", "y\n\tat b.Big.go(Big.java:21)\n");
-        probe.retraces("y\n\tat x.b.a(Unknown Source)", "1", "y\n\tat b.Big.go(Unknown Source)\n");
-        probe.retraces("y\n\tat x.b.zz(Native Method)", "1",
-                "y\n\tat a.Util.zz(Native Method)\n");
-        probe.retraces("y\n\tat x.b.zz(S.t:77)", "1", "y\n\tat a.Util.zz(Util.java:77)\n");
-        probe.retraces("y\n\tat q.b.a(S.t:77)\n\tat q.b.a(S)\n\tat q.b.a(Native Method)", "3",
-                "y\n\tat q.b.a(S.t:77)\n\tat q.b.a(S)\n\tat q.b.a(Native Method)\n");
+    private static void shortMethods() {
+        Probe.sentence("Retracing: the groups of the class line whose short method is that of the"
+                + " frame");
+        String mapping = "A -> x:\n    1:1:m -> n\n    2:2:o -> nn\nB -> y:\n    3:3:p -> n\n";
+        frame(mapping, "x.n(S:1)", "A.m(A.java:1)");
+        frame(mapping, "x.n(S:2)", "A.m(A.java:2)");
+        frame(mapping, "x.nn(S:1)", "A.o(A.java:1)");
+        frame(mapping, "x.n(S:3)", "A.m(A.java:3)");
+        frame(mapping, "y.n(S:1)", "B.p(B.java:1)");
+        frame(mapping, "x.N(S:1)", "A.N(A.java:1)");
+        frame(mapping, "x.m(S:1)", "A.m(A.java:1)");
     }
 
-    private static void doubtfulFrames() {
+    private static void edgesOfRange() {
+        Probe.sentence("Retracing: one of them has a range with L in it: its first and its last line,"
+                + " and those beside it");
+        String mapping = "A -> x:\n    o -> n\n    5:9:m:50:54 -> n\n";
+        frame(mapping, "x.n(S:4)", "A.o(A.java:4)");
+        frame(mapping, "x.n(S:5)", "A.m(A.java:50)");
+        frame(mapping, "x.n(S:6)", "A.m(A.java:51)");
+        frame(mapping, "x.n(S:9)", "A.m(A.java:54)");
+        frame(mapping, "x.n(S:10)", "A.o(A.java:10)");
+        mapping = "A -> x:\n    o -> n\n    7:7:m:50 -> n\n";
+        frame(mapping, "x.n(S:6)", "A.o(A.java:6)");
+        frame(mapping, "x.n(S:7)", "A.m(A.java:50)");
+        frame(mapping, "x.n(S:8)", "A.o(A.java:8)");
+        mapping = "A -> x:\n    o -> n\n    0:0:m:50 -> n\n    9999:9999:p:0 -> n\n";
+        frame(mapping, "x.n(S:0)", "A.m(A.java:50)");
+        frame(mapping, "x.n(S:1)", "A.o(A.java:1)");
+        frame(mapping, "x.n(S:9998)", "A.o(A.java:9998)");
+        frame(mapping, "x.n(S:9999)", "A.p(A.java:0)");
+        frame("A -> x:\n    0:9999:m:0:9999 -> n", "x.n(S:9999)", "A.m(A.java:9999)");
+    }
+
+    private static void firstGroupWithTheLine() {
+        Probe.sentence("Retracing: the first such group");
+        String mapping = "A -> x:\n    3:5:m:30 -> n\n    5:8:o:40 -> n\n    1:9:p:50 -> n\n";
+        frame(mapping, "x.n(S:2)", "A.p(A.java:50)");
+        frame(mapping, "x.n(S:4)", "A.m(A.java:30)");
+        frame(mapping, "x.n(S:5)", "A.m(A.java:30)");
+        frame(mapping, "x.n(S:6)", "A.o(A.java:40)");
+        frame(mapping, "x.n(S:9)", "A.p(A.java:50)");
+        frame("A -> x:\n    1:2:m:30 -> n\n    k -> l\n    1:2:o:40 -> n", "x.n(S:1)",
+                "A.m(A.java:30)");
+    }
+
+    private static void oneFrameForEachLine() {
+        Probe.sentence("Retracing: the frame becomes one frame for each of its method lines, in their"
+                + " order: the real class and method, the class's file");
+        frame(MAPPING, "x.a.a(S:4)", "a.Util$In.help(Util.java:7)", "a.Main.run(Main.java:13)");
+        frame(MAPPING, "x.b.a(S.t:7)", "a.Util.help(Util.java:7)", "b.Big.go(Big.java:70)");
+        String[] due = new String[32];
+        java.util.Arrays.fill(due, "A.m(A.java:1)");
+        frame("A -> x:\n" + "    1:1:m -> n\n".repeat(32), "x.n(S:1)", due);
         Probe probe = loaded();
+        probe.retraces("y\n\tat x.a.a(S:4)\n\tat q.q(S)\n\tat x.a.a(S:4)\nCaused by: z\n"
+                + "\tat x.a.a(S:4)\n\t... 1 more", "7",
+                "y\n\tat a.Util$In.help(Util.java:7)\n\tat a.Main.run(Main.java:13)\n\tat q.q(S)\n"
+                + "\tat a.Util$In.help(Util.java:7)\n\tat a.Main.run(Main.java:13)\nCaused by: z\n"
+                + "\tat a.Util$In.help(Util.java:7)\n\tat a.Main.run(Main.java:13)\n\t... 1 more\n");
+    }
+
+    private static void realLines() {
+        Probe.sentence("Retracing: c + L - a, or c if d is c");
+        String mapping = "A -> x:\n    10:12:m:7:9 -> n\n    10:12:o:7 -> n\n    10:12:p -> n\n"
+                + "    10:12:q:9997:9999 -> n\n    10:12:r:0:2 -> n\n    10:12:s:0:0 -> n\n";
+        for (int i = 0; i < 3; i++) {
+            frame(mapping, "x.n(S:" + (10 + i) + ")", "A.m(A.java:" + (7 + i) + ")", "A.o(A.java:7)",
+                    "A.p(A.java:" + (10 + i) + ")", "A.q(A.java:" + (9997 + i) + ")",
+                    "A.r(A.java:" + i + ")", "A.s(A.java:0)");
+        }
+    }
+
+    private static void frameWithoutLine() {
+        Probe.sentence("Retracing: a frame without a line is in no range");
+        for (String range : new String[] {"0:0", "0:9999", "1:1"}) {
+            String mapping = "A -> x:\n    " + range + ":m:5 -> n\n    " + range + ":o:6 -> n\n";
+            frame(mapping, "x.n(S)", "A.o(A.java)");
+            frame(mapping, "x.n(S.t)", "A.o(A.java)");
+            frame(mapping, "x.n(Unknown Source)", "A.o(Unknown Source)");
+            frame(mapping, "x.n(Native Method)", "A.o(Native Method)");
+        }
+    }
+
+    private static void lineInNoRange() {
+        Probe.sentence("Retracing: otherwise the real class and method of the last line of the first"
+                + " group");
+        frame(MAPPING, "x.a.a(S:0)", "a.Main.run(Main.java:0)");
+        frame(MAPPING, "x.a.a(S:5)", "a.Main.run(Main.java:5)");
+        frame(MAPPING, "x.b.a(S:4)", "b.Big.go(Big.java:4)");
+        frame(MAPPING, "x.b.a(S.t:21)", "b.Big.go(Big.java:21)");
+        frame(MAPPING, "x.a.b(S:9)", "a.Main.stop(Main.java:9)");
+        frame("A -> x:\n    m -> n\n    1:1:o -> n\n    1:1:p -> n", "x.n(S)", "A.m(A.java)");
+        frame("A -> x:\n    1:1:o -> n\n    1:1:B.p -> n\n    m -> n", "x.n(S)", "B.p(B.java)");
+        frame("A -> x:\n    k -> l\n    m -> n", "x.n(S:7)", "A.m(A.java:7)");
+    }
+
+    private static void noSuchGroup() {
+        Probe.sentence("Retracing: otherwise the real class, and the method as it is");
+        frame(MAPPING, "x.b.zz(S.t:77)", "a.Util.zz(Util.java:77)");
+        frame(MAPPING, "x.b.b(S)", "a.Util.b(Util.java)");
+        frame(MAPPING, "x.b.help(Native Method)", "a.Util.help(Native Method)");
+        frame("A -> x:\nB -> y:\n    m -> n", "x.n(S:1)", "A.n(A.java:1)");
+        frame("A -> x:\nB -> y:\n    m -> n", "y.n(S:1)", "B.m(B.java:1)");
+    }
+
+    private static void placeStays() {
+        Probe.sentence("Retracing: in both cases the place stays, but for a file, that becomes the"
+                + " class's file");
+        String[] places = {"S", "S.t", "S:0", "S.t:9999", "Unknown Source", "Native Method", "Unknown",
+            "A.java:5"};
+        String[] groupPlaces = {"C.java", "C.java", "C.java:0", "C.java:9999", "Unknown Source",
+            "Native Method", "C.java", "C.java:5"};
+        for (int i = 0; i < places.length; i++) {
+            frame("A -> x:\n    c.C.m -> n", "x.n(" + places[i] + ")", "c.C.m(" + groupPlaces[i] + ")");
+            frame("c.C -> x:", "x.n(" + places[i] + ")", "c.C.n(" + groupPlaces[i] + ")");
+        }
+    }
+
+    private static void doubts(String methodLines, String frame, int due) {
+        Probe probe = Probe.loaded("A -> x:\n" + methodLines);
+        probe.retrace("y\n\tat " + frame);
+        Probe.same("doubtful() of " + frame + " with\n" + methodLines, probe.doubtful(),
+                Integer.toString(due));
+        probe = Probe.loaded("A -> x:\n" + methodLines);
+        probe.report("y\n\tat " + frame);
+        Probe.same("doubtful() of a report of " + frame + " with\n" + methodLines, probe.doubtful(),
+                Integer.toString(due));
+    }
+
+    private static void doubtfulByClassOrMethod() {
+        Probe.sentence("Retracing: doubtful if the last lines of two of these groups have different"
+                + " classes or methods");
+        doubts("    m -> n\n    o -> n", "x.n(S)", 1);
+        doubts("    m -> n\n    o -> n", "x.n(S:1)", 1);
+        doubts("    m -> n\n    o -> n", "x.n(Native Method)", 1);
+        doubts("    m -> n\n    B.m -> n", "x.n(S)", 1);
+        doubts("    m -> n\n    A.A.m -> n", "x.n(S)", 1);
+        doubts("    m -> n\n    mm -> n", "x.n(S)", 1);
+        doubts("    m -> n\n    m -> n\n    o -> n", "x.n(S)", 1);
+        doubts("    m -> n\n    o -> n\n    m -> n", "x.n(S)", 1);
+        doubts("    1:1:m -> n\n    2:2:o -> n", "x.n(S:3)", 1);
+        doubts("    1:1:m -> n\n    1:1:o -> n\n    2:2:m -> n", "x.n(S:3)", 1);
+        doubts("    1:1:m -> n\n    1:2:m -> n\n    1:2:o -> n", "x.n(S)", 1);
+    }
+
+    private static void notDoubtful() {
+        Probe.sentence("Retracing: not doubtful: groups that end alike, one group, none, or a range");
+        doubts("    m -> n", "x.n(S)", 0);
+        doubts("    m -> n\n    A.m -> n", "x.n(S)", 0);
+        doubts("    1:1:o -> n\n    1:1:m -> n\n    m -> n", "x.n(S)", 0);
+        doubts("    m -> n\n    1:1:o -> n\n    1:1:m -> n", "x.n(S:2)", 0);
+        doubts("    1:1:m -> n\n    1:1:o -> n", "x.n(S)", 0);
+        doubts("    m -> n\n    o -> p", "x.n(S)", 0);
+        doubts("    m -> n\nB -> y:\n    o -> n", "x.n(S)", 0);
+        doubts("    m -> n\n    o -> n", "x.p(S)", 0);
+        doubts("    1:1:m -> n\n    2:2:o -> n", "x.n(S:1)", 0);
+        doubts("    1:1:m -> n\n    2:2:o -> n", "x.n(S:2)", 0);
+        doubts("    m -> n\n    o -> n", "A.m(S)", 0);
+    }
+
+    private static void doubtfulIsCounted() {
+        Probe.sentence("Promise 11: how many frames were doubtful in the latest retrace() or report()"
+                + " that did not throw; 0 before it");
+        Probe probe = new Probe();
+        Probe.same("doubtful() before", probe.doubtful(), "0");
+        probe.load(MAPPING);
+        Probe.same("doubtful() behind load()", probe.doubtful(), "0");
         probe.retrace("y\n\tat x.a.b(S:1)\n\tat x.a.a(S)\n\tat x.b.a(S)\n\tat c.a(S)\n"
                 + "\tat x.a.a(S:1)\n\tat x.a.c(S)\n\tat q.b(S)\nCaused by: y\n\tat x.a.b(S)");
-        Probe.same("doubtful()", probe.desk.doubtful(), 3);
+        Probe.same("doubtful() of two headers", probe.doubtful(), "3");
         probe.shorten("y");
-        Probe.same("doubtful() behind shorten()", probe.desk.doubtful(), 3);
-        probe.retrace("y\nz");
-        Probe.same("doubtful() behind a wrong trace", probe.desk.doubtful(), 3);
+        Probe.same("doubtful() behind shorten()", probe.doubtful(), "3");
+        probe.load("");
+        Probe.same("doubtful() behind load()", probe.doubtful(), "3");
+        probe.load(MAPPING);
+        Map<String, String> before = probe.state();
+        for (String name : new String[] {"retrace", "report"}) {
+            Probe.same("a wrong trace", probe.read(name, "y\n\tat x.a.b(S)\nz"),
+                    Probe.ILLEGAL_ARGUMENT);
+            probe.shows("a wrong trace", before, "wrong", "3");
+        }
         probe.report("y\n\tat x.a.b(S:1)");
-        Probe.same("doubtful() behind report()", probe.desk.doubtful(), 1);
+        Probe.same("doubtful() behind report()", probe.doubtful(), "1");
         probe.retrace("y");
-        Probe.same("doubtful() behind retrace()", probe.desk.doubtful(), 0);
-        probe.load("a -> b:\n    c.d.m -> n\n    d.m -> n");
-        probe.retrace("y\n\tat b.n(S)");
-        Probe.same("doubtful() of different classes", probe.desk.doubtful(), 1);
-        probe.load("a -> b:\n    m -> n\n    1:2:o -> n\n    1:2:a.m -> n\nc -> d:\n    o -> n");
-        probe.retrace("y\n\tat b.n(S)");
-        Probe.same("doubtful() of groups that end alike", probe.desk.doubtful(), 0);
+        Probe.same("doubtful() behind retrace()", probe.doubtful(), "0");
+        probe = Probe.loaded("A -> x:\n    m -> n\n    o -> n");
+        probe.retrace("y\n" + "\tat x.n(S)\n".repeat(20));
+        Probe.same("doubtful() of 20 frames", probe.doubtful(), "20");
+        probe.report("y");
+        Probe.same("doubtful() behind report()", probe.doubtful(), "0");
     }
 
-    private static void filesOfClasses() {
-        String[] reals = {"A", "a.B", "A$B$C", "$A", "$A$B", "$$A", "a$b.C", "A$"};
-        String[] files = {"A", "B", "A", "$A", "$A", "$", "C", "A"};
+    private static void files() {
+        Probe.sentence("Retracing: the file of a real class is its last part, without a $ that is not"
+                + " at its beginning and what is behind that, and '.java'");
+        String[] reals = {"A", "a.B", "a.b.C", "A$B", "A$B$C", "A$", "A$$", "A$$B", "$", "$A", "$A$B",
+            "$A$", "$$", "$$A", "a.$", "a.$A", "a.$A$B", "a.$$", "a$b.C", "$a.C$d", "a$.$b$c",
+            "a.B$c", "Z" + "9".repeat(39)};
+        String[] files = {"A", "B", "C", "A", "A", "A", "A", "A", "$", "$A", "$A",
+            "$A", "$", "$", "$", "$A", "$A", "$", "C", "C", "$b",
+            "B", "Z" + "9".repeat(39)};
         for (int i = 0; i < reals.length; i++) {
-            Probe probe = new Probe();
-            probe.load(reals[i] + " -> x:\n    3:4:m -> n");
-            String frame = "\tat " + reals[i] + ".m(" + files[i] + ".java";
-            probe.retraces("y\n\tat x.m(S)\n\tat x.n(S:3)", "2",
-                    "y\n" + frame + ")\n" + frame + ":3)\n");
+            String file = "(" + files[i] + ".java";
+            frame(reals[i] + " -> x:\n    3:4:m -> n", "x.n(S:3)", reals[i] + ".m" + file + ":3)");
+            frame(reals[i] + " -> x:\n    3:4:m -> n", "x.n(S:5)", reals[i] + ".m" + file + ":5)");
+            frame(reals[i] + " -> x:", "x.n(S)", reals[i] + ".n" + file + ")");
+            if (reals[i].length() < 39) {
+                frame("Q -> x:\n    1:1:" + reals[i] + ".m -> n", "x.n(S:1)",
+                        reals[i] + ".m" + file + ":1)");
+                frame("Q -> x:\n    " + reals[i] + ".m -> n", "x.n(S)", reals[i] + ".m" + file + ")");
+            }
         }
     }
 
-    private static void wrongTraces() {
-        String[] firstLines = {"", "\n", "\na", "a b", "a:", "a:b", "a :b", " a", "a.", "a..b", "1",
-            "\tat a.b(C)", "Caused by: a", "\t... 1 more", "a".repeat(41)};
-        for (String text : firstLines) {
-            Probe.isNoTrace(text, 1);
-        }
-        String[] secondLines = {"", "b", " \tat b.c(D)", "\tat b(D)", "\tat b.c", "\tat b.c()",
-            "\tat b.c(D:)", "\tat b.c(D:01)", "\tat b.c(D:10000)", "\tat b.c(D.e.f)", "\tat b.c(.D)",
-            "\tat b.c(D.)", "\tat b.c(D.:1)", "\tat b.c(Unknown Source:1)", "\tat b.c(Native Method:1)",
-            "\tat b.c(Unknown)x", "\tat b.c(D) ", "\tat  b.c(D)", "\tat b.c (D)", "\tatb.c(D)",
-            "\tat b.c(D:1", "\tat b.c(D:x)", "\tat b.c(native method)", "\tat b.1c(D)",
-            "\tat " + "b".repeat(20) + "." + "c".repeat(20) + "(D)",
-            "\tat b.c(" + "D".repeat(41) + ")", "\tat b.c(" + "D".repeat(41) + ".e)",
-            "\tat b.c(D." + "e".repeat(41) + ")",
-            "\t... more", "\t...1 more", "\t... 01 more", "\t... 10000 more", "\t... 1 more ",
-            "\t... 1", "... 1 more", "Caused by: ", "Caused by: a:", "Caused by:a",
-            "Caused by: Caused by: a", "\tCaused by: a"};
-        for (String line : secondLines) {
-            Probe.isNoTrace("a\n" + line + "\n", 2);
-            Probe.isNoTrace("a: b\n" + line + "\nCaused by: c", 2);
-        }
-        Probe.isNoTrace("a\n\n", 2);
-        Probe.isNoTrace("a\n\tat b.c(D)\n\n\n", 3);
-        Probe.isNoTrace("a\n\t... 1 more\n\t... 1 more", 3);
-        Probe.isNoTrace("a\n\t... 1 more\n\tat b.c(D)", 3);
-        Probe.isNoTrace("a\nCaused by: b\n\t... 1 more\n\tat b.c(D)", 4);
+    private static void answers() {
+        Probe.sentence("Promise 5: the draft is empty then; answers how many frames the print has");
+        Probe probe = Probe.used();
+        Map<String, String> before = probe.state();
+        Probe.same("retrace() of a header", probe.retrace("o"), "0");
+        probe.shows("retrace() of a header", before, "print", "a.Old\n", "doubtful", "0");
+        before = probe.state();
+        Probe.same("retrace() of two doubtful frames",
+                probe.retrace("o: 1\n\tat o.n(S)\nCaused by: p\n\tat o.n(S:2)\n\tat p.q(S)"), "3");
+        probe.shows("retrace() of two doubtful frames", before, "doubtful", "2", "print",
+                "a.Old: 1\n\tat a.Old.m(Old.java)\nCaused by: p\n\tat a.Old.m(Old.java:2)\n"
+                + "\tat p.q(S)\n");
+        probe = Probe.loaded("A -> x:\n" + "    1:1:m -> n\n".repeat(3));
+        Probe.same("retrace() of 7 frames", probe.retrace("y\n" + "\tat x.n(S:1)\n".repeat(7)), "21");
     }
 
-    private static void limits() {
-        Probe probe = new Probe();
-        probe.load("");
-        String longCall = "\tat " + "b".repeat(20) + "." + "c".repeat(19) + "(D)\n";
-        probe.retraces("a\n" + longCall, "1", "a\n" + longCall);
-        String longClass = "b".repeat(20) + "." + "c".repeat(19);
-        probe.retraces(longClass + ": d\nCaused by: " + longClass, "0",
-                longClass + ": d\nCaused by: " + longClass + "\n");
-        Probe.isNoTrace("a\nCaused by: " + longClass + "c", 2);
-        String longFile = "\tat b.c(" + "D".repeat(40) + "." + "e".repeat(40) + ":9999)\n";
-        probe.retraces("a\n" + longFile, "1", "a\n" + longFile);
-        String frames = "\tat b.c(D:0)\n".repeat(20);
-        probe.retraces("a\n" + frames, "20", "a\n" + frames);
-        Probe.isNoTrace("a\n" + frames + "\tat b.c(D)\n", 22);
-        Probe.isNoTrace("a\n" + frames + "Caused by: b\n\tat b.c(D)\n", 23);
-        String causes = "Caused by: b\n".repeat(3);
-        probe.retraces("a\n" + causes, "0", "a\n" + causes);
-        Probe.isNoTrace("a\n" + causes + "Caused by: b\n", 5);
-    }
-
-    private static void printsTooLong() {
-        Probe probe = new Probe();
-        probe.load("a" + "A".repeat(39) + " -> b:\n    1:1:m -> n\n    1:1:m -> n\n    1:1:m -> n\n"
-                + "c" + "C".repeat(30) + " -> d:\n");
-        // three frames come of one of b.n, each of 4 + 40 + 3 + 45 + 2 + 2 = 96 characters
-        String start = "x\n" + "\tat b.n(D:1)\n".repeat(3) + "\tat b.z(D)\n";
-        Probe.same("frames", probe.retrace(start), "10");
-        int size = 2 + 9 * 96 + 94;
-        Probe.same("length()", probe.desk.length(), size);
-        String full = start + "\t... 1 more\nCaused by: " + "y".repeat(1000 - size - 12 - 12) + "\n";
-        Probe.same("a print of 1000", probe.retrace(full), "10");
-        Probe.same("another print of 1000", probe.retrace(full), "10");
-        Probe.same("length() of it", probe.desk.length(), 1000);
-        String print = probe.print();
-        probe.type(full.replace("1 more", "10 more"));
-        Probe.same("a print of 1001", Probe.answer(probe.desk::retrace), Probe.ILLEGAL_STATE);
-        Probe.same("the draft behind it", Probe.answer(probe.desk::retrace), Probe.ILLEGAL_ARGUMENT);
-        Probe.same("report with a print of 1001", probe.report(full.replace("1 more", "10 more")),
-                Probe.ILLEGAL_STATE);
-        Probe.same("crashes()", probe.desk.crashes(), 0);
-        Probe.same("a print of far more", probe.retrace("x\n" + "\tat b.n(D:1)\n".repeat(20)),
-                Probe.ILLEGAL_STATE);
-        Probe.same("the print stays", probe.print(), print);
-        Probe.same("doubtful() stays", probe.desk.doubtful(), 0);
-    }
-
-    private static void charactersOfThePrint() {
-        Probe probe = new Probe();
-        probe.load("");
-        probe.retrace("a: \t~");
-        Probe.same("length()", probe.desk.length(), 6);
-        int[] codes = {97, 58, 32, 9, 126, 10};
-        for (int i = 0; i < codes.length; i++) {
-            Probe.same("at(" + i + ")", probe.desk.at(i), codes[i]);
-        }
-        for (int i : new int[] {6, 7, 999, 1000, -1, Integer.MIN_VALUE, Integer.MAX_VALUE}) {
-            Probe.same("at(" + i + ")", Probe.answer(() -> probe.desk.at(i)), Probe.OUT_OF_BOUNDS);
-        }
-        probe.retrace("a: a longer one");
-        probe.retrace("b");
-        Probe.same("at(2) of a shorter print", Probe.answer(() -> probe.desk.at(2)),
-                Probe.OUT_OF_BOUNDS);
+    private static void nothingIsLeftOfOlderTraces() {
+        Probe.sentence("Promise 5: nothing is left of the traces before");
+        Probe probe = Probe.loaded("");
+        probe.retrace("a: b\n\tat b.c(D:1)\n\tat b.c(D:1)\n\t... 1 more\nCaused by: e: f\n\tat g.h(I)");
+        probe.retraces("a", "0", "a\n");
+        probe.retraces("a\nCaused by: e", "0", "a\nCaused by: e\n");
+        probe.retraces("a\n\tat b.c(D)\nCaused by: e", "1", "a\n\tat b.c(D)\nCaused by: e\n");
+        probe.retraces("a\n\tat b.c(Native Method)", "1", "a\n\tat b.c(Native Method)\n");
+        probe.retrace("a\n\tat b.c(D:1)\n-");
+        probe.retraces("a", "0", "a\n");
     }
 }
