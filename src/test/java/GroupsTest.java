@@ -11,6 +11,7 @@ public final class GroupsTest {
         ofOneClassLine();
         withoutRange();
         numbersOfClassLines();
+        groupsOfTheLatestMapping();
         Probe.finish("GroupsTest");
     }
 
@@ -115,11 +116,21 @@ public final class GroupsTest {
             }
             probe.shows("groups()", before);
         }
-        Probe probe = Probe.loaded("a -> b:\nc -> d:\n    m -> n");
-        probe.load("a -> b:");
-        Probe.same("groups(1) of the mapping before", probe.groups(1), Probe.NO_SUCH_ELEMENT);
-        probe.load("a -> b:\nc -> d:\n    m -> n\nx");
-        Probe.same("groups(1) of a refused mapping", probe.groups(1), Probe.NO_SUCH_ELEMENT);
-        Probe.same("groups(0) behind a refused mapping", probe.groups(0), "0");
+    }
+
+    private static void groupsOfTheLatestMapping() {
+        Probe.sentence("Promise 12: how many groups a class line has in the mapping");
+        String[] mappings = {"a -> b:\n    m -> n\n    m -> n\nc -> d:\n    m -> n", "a -> b:",
+            "a -> b:\n    m -> n\nc -> d:\ne -> f:\n    1:1:m -> n\n    1:1:m -> n", "",
+            "c -> d:\n    1:1:m -> n\n    2:2:m -> n\n    3:3:m -> n"};
+        String[] due = {"2,1", "0", "1,0,1", "", "3"};
+        Probe probe = new Probe();
+        for (int i = 0; i < 3 * mappings.length; i++) {
+            int next = (2 * i + i / mappings.length) % mappings.length;
+            probe.load(mappings[next]);
+            Probe.same("groups of\n" + mappings[next], probe.state().get("groups"), due[next]);
+            Probe.same("a wrong mapping", probe.load(mappings[i % 3] + "\n-"), Probe.ILLEGAL_ARGUMENT);
+            Probe.same("groups behind it", probe.state().get("groups"), due[next]);
+        }
     }
 }

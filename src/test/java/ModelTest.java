@@ -51,7 +51,7 @@ public final class ModelTest {
                 goesOn = compare("retrace", trace(BRIEFS), RetraceDesk::retrace, model::retrace, kinds);
             } else if (what < 7) {
                 goesOn = compare("shorten", trace(REALS), RetraceDesk::shorten, model::shorten, kinds);
-            } else if (what < 8 && random.nextInt(3) == 0) {
+            } else if (what < 8 && random.nextInt(3) == 0 && calls < Probe.MOST_CALLS) {
                 ask(d -> {
                     d.scrap();
                     return "";
@@ -64,7 +64,7 @@ public final class ModelTest {
                 goesOn = compare("report", random.nextBoolean() ? trace(BRIEFS) : pick(REALS) + ": "
                         + pick(METHODS), RetraceDesk::report, model::report, kinds);
             }
-            if (goesOn) {
+            if (goesOn && calls + MOST_TO_COMPARE <= Probe.MOST_CALLS) {
                 compareState();
             }
         }
@@ -92,7 +92,7 @@ public final class ModelTest {
             pieces.add(draft.substring(i, Math.min(i + n, draft.length())));
             i += n;
         }
-        if (calls + pieces.size() + MOST_TO_COMPARE > Probe.MOST_CALLS) {
+        if (calls + pieces.size() + 1 + MOST_TO_COMPARE > Probe.MOST_CALLS) {
             return false;
         }
         for (String piece : pieces) {

@@ -18,6 +18,8 @@ public final class RefusalTest {
         questionsKeepTheDraft();
         refusedPutKeepsTheDraft();
         goesOnAsBefore();
+        nothingIsLeftOfOlderDrafts();
+        fullDraftsThatBreakOff();
         Probe.finish("RefusalTest");
     }
 
@@ -237,6 +239,63 @@ public final class RefusalTest {
             String text = "o: 1\n\tat o.n(S:1)\n\tat a.Old.k(S)\nCaused by: a.Old";
             Probe.same(name + "()", probe.read(name, text), other.read(name, text));
             probe.shows(name + "()", other.state(), "wrong", "3");
+        }
+    }
+
+    private static final String WHOLE_MAPPING = "# note\nb.B$c -> o:\n    10:12:q.R.p:340:342 -> n\n"
+            + "    10:12:s:56:56 -> n\n\n    10:12:t:7 -> n\n    18:19:u -> n\n    v -> w\nx.y -> z:\n";
+    private static final String WHOLE_TRACE = "o: 12 : \n\tat o.n(S.t:11)\n\tat o.w(Native Method)\n"
+            + "\tat q.R.p(S:340)\n\tat p.q(Unknown Source)\n\t... 10 more\n"
+            + "Caused by: b.B$c\n\tat z.w(S:18)";
+
+    private static void nothingIsLeftOfOlderDrafts() {
+        Probe.sentence("Terms, last, and promises 4 to 7: nothing is left of a longer draft before");
+        for (int size = 0; size <= WHOLE_MAPPING.length(); size++) {
+            String text = WHOLE_MAPPING.substring(0, size);
+            Probe probe = Probe.used();
+            Probe fresh = Probe.used();
+            probe.load(WHOLE_MAPPING);
+            probe.load(Probe.USED_MAPPING);
+            Probe.same("load() of\n" + text, probe.load(text), fresh.load(text));
+            probe.shows("load() of\n" + text, fresh.state());
+        }
+        for (String name : READERS) {
+            for (int size = 0; size <= WHOLE_TRACE.length(); size++) {
+                String text = WHOLE_TRACE.substring(0, size);
+                Probe probe = Probe.loaded(WHOLE_MAPPING);
+                Probe fresh = Probe.loaded(WHOLE_MAPPING);
+                probe.retrace(WHOLE_TRACE);
+                probe.retrace("i");
+                fresh.retrace("i");
+                Probe.same(name + "() of\n" + text, probe.read(name, text), fresh.read(name, text));
+                probe.shows(name + "() of\n" + text, fresh.state());
+            }
+        }
+    }
+
+    /** Where the draft is full, nothing may be looked for behind its end. */
+    private static void fullDraftsThatBreakOff() {
+        Probe.sentence("Promises 4 to 7: a draft of 600 characters that breaks off anywhere");
+        for (int size = 7; size <= WHOLE_MAPPING.length(); size++) {
+            String text = WHOLE_MAPPING.substring(7, size);
+            Probe probe = Probe.used();
+            Probe brief = Probe.used();
+            Probe.same("load() of 600, ending with\n" + text,
+                    probe.load("#" + "x".repeat(598 - text.length()) + "\n" + text),
+                    brief.load("#\n" + text));
+            probe.shows("load() of 600, ending with\n" + text, brief.state());
+        }
+        for (String name : READERS) {
+            for (int size = 9; size <= WHOLE_TRACE.length(); size++) {
+                String text = WHOLE_TRACE.substring(9, size);
+                Probe probe = Probe.loaded(WHOLE_MAPPING);
+                Probe brief = Probe.loaded(WHOLE_MAPPING);
+                Probe.same(name + "() of 600, ending with\n" + text,
+                        probe.read(name, "i: " + "x".repeat(596 - text.length()) + "\n" + text),
+                        brief.read(name, "i: x\n" + text));
+                Probe.same("print", probe.print().replaceAll("x+", "x"), brief.print());
+                Probe.same("wrong()", probe.wrong(), brief.wrong());
+            }
         }
     }
 }

@@ -289,6 +289,7 @@ public final class RetraceTest {
                 frame("Q -> x:\n    1:1:" + reals[i] + ".m -> n", "x.n(S:1)",
                         reals[i] + ".m" + file + ":1)");
                 frame("Q -> x:\n    " + reals[i] + ".m -> n", "x.n(S)", reals[i] + ".m" + file + ")");
+                frame("Q -> x:\n    " + reals[i] + ".$ -> n", "x.n(S)", reals[i] + ".$" + file + ")");
             }
         }
     }
