@@ -242,11 +242,11 @@ public final class LoadTest {
         Probe probe = Probe.used();
         probe.load("wrong");
         Map<String, String> before = probe.state();
-        Probe.same("load()", probe.load("b.B -> o:\n    1:1:p -> n\nc.C -> x:\n    q -> n\n"), "2");
+        Probe.same("load()", probe.load("b.B -> o:\n    1:1:p -> n\nA -> x:\n    m -> n\n"), "2");
         probe.shows("load()", before, "groups", "1,1", "renames",
-                "3 b.B\n\tat b.B.p(B.java)\nCaused by: c.C\n\tat c.C.q(C.java:1)\n"
-                + "\tat c.C.q(C.java)\n3 o\n\tat o.p(SourceFile)\nCaused by: x\n"
-                + "\tat x.n(SourceFile:1)\n\tat x.n(SourceFile)\n");
+                "3 b.B\n\tat b.B.p(B.java)\nCaused by: A\n\tat A.m(A.java:1)\n\tat A.m(A.java)\n"
+                + "3 a.Old\n\tat a.Old.k(S)\nCaused by: x\n\tat x.n(SourceFile:1)\n"
+                + "\tat x.n(SourceFile)\n");
         Probe.same("load() of the draft it left", probe.load(""), "0");
         probe.shows("load() of nothing", before, "groups", "", "renames", Probe.ANY);
     }

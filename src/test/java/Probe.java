@@ -20,7 +20,10 @@ final class Probe {
     static final String USED_TRACE = "o: 7\n\tat o.n(S)\n";
 
     private static final int MOST_TO_READ = 100;
-    private static final String RENAMED = "o\n\tat o.n(S)\nCaused by: x\n\tat x.n(S:1)\n\tat x.n(S)";
+    private static final String SHORT_TEXT = "o\n\tat o.n(S)\nCaused by: x\n\tat x.n(S:1)\n"
+            + "\tat x.n(S)";
+    private static final String REAL_TEXT = "a.Old\n\tat a.Old.k(S)\nCaused by: A\n\tat A.m(S:1)\n"
+            + "\tat A.m(S)";
     private static String sentence = "";
     private static int sentences = 0;
     private static int checks = 0;
@@ -240,22 +243,19 @@ final class Probe {
         return text.toString();
     }
 
-    /** What the mapping makes of some text, both ways; what is thrown if there is none. */
+    /** What the mapping makes of some texts, both ways; what is thrown if there is none. */
     private String renames() {
-        Probe there = new Probe();
-        Probe back = new Probe();
+        return renamed("retrace", SHORT_TEXT) + renamed("shorten", REAL_TEXT);
+    }
+
+    private String renamed(String name, String text) {
+        Probe copy = new Probe();
         for (Call call : calls) {
-            there.ask(call);
-            back.ask(call);
+            copy.ask(call);
         }
-        there.scrap();
-        back.scrap();
-        String first = there.retrace(RENAMED);
-        if (first.equals(ILLEGAL_STATE)) {
-            return back.shorten(RENAMED);
-        }
-        String print = there.print();
-        return first + " " + print + back.shorten(print) + " " + back.print();
+        copy.scrap();
+        String answer = copy.read(name, text);
+        return answer.equals(ILLEGAL_STATE) ? answer : answer + " " + copy.print();
     }
 
     /** All that the object shows, by the calls that show it. */
@@ -331,12 +331,14 @@ final class Probe {
     }
 
     void retraces(String trace, String frames, String print) {
+        Map<String, String> before = state();
         same("retrace() of\n" + trace, retrace(trace), frames);
-        same("print of retrace() of\n" + trace, print(), print);
+        shows("retrace() of\n" + trace, before, "draft", "0", "print", print, "doubtful", ANY);
     }
 
     void shortens(String trace, String frames, String print) {
+        Map<String, String> before = state();
         same("shorten() of\n" + trace, shorten(trace), frames);
-        same("print of shorten() of\n" + trace, print(), print);
+        shows("shorten() of\n" + trace, before, "draft", "0", "print", print);
     }
 }
