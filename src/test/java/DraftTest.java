@@ -9,6 +9,7 @@ public final class DraftTest {
     public static void main(String[] args) {
         newObject();
         newObjectHasNoMapping();
+        objectsSideBySide();
         putTakesOneToEight();
         putTakesTheLowestBits();
         putTakesTheHighestFirst();
@@ -55,6 +56,23 @@ public final class DraftTest {
             Probe.same(name + "() of no lines", probe.read(name, ""), Probe.ILLEGAL_ARGUMENT);
             probe.shows(name + "() of no lines", before, "wrong", "1");
         }
+    }
+
+    private static void objectsSideBySide() {
+        Probe.sentence("Promise 1: a new object has nothing of the others, and they nothing of it");
+        Map<String, String> fresh = new Probe().state();
+        Probe old = Probe.used().type("kept");
+        Map<String, String> before = old.state();
+        Probe young = new Probe();
+        young.shows("another object", fresh);
+        young.load("A -> x:\n    m -> n\n");
+        young.report("x: 2\n\tat x.n(S:1)");
+        young.report("-");
+        young.type("more");
+        old.shows("calls of another object", before);
+        old.scrap();
+        young.shows("scrap() of another object", fresh, "draft", "4", "groups", "1", "wrong", "1",
+                "print", "A: 2\n\tat A.m(A.java:1)\n", "crashes", Probe.ANY, "renames", Probe.ANY);
     }
 
     private static void putTakesOneToEight() {

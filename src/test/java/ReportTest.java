@@ -17,6 +17,7 @@ public final class ReportTest {
         retracedNames();
         sameKeyIsOneGroup();
         otherKeysAreOtherGroups();
+        sameKeyOfOtherMappings();
         printAndDoubtful();
         orderOfGroups();
         atMostSixteenGroups();
@@ -203,6 +204,20 @@ public final class ReportTest {
         for (int i = 0; i < traces.length; i++) {
             Probe.same("report() of\n" + traces[i], probe.report(traces[i]), Integer.toString(i));
         }
+    }
+
+    private static void sameKeyOfOtherMappings() {
+        Probe.sentence("Crashes: the key is of what retracing writes, whatever mapping was there");
+        Probe probe = Probe.loaded("A -> x:\n    m -> n\n");
+        Probe.same("the first mapping", probe.report("x: 1\n\tat x.n(S)"), "0");
+        probe.load("A -> y:\n    1:1:m:7 -> o\n");
+        Probe.same("another mapping", probe.report("y: 2\n\tat y.o(S:1)"), "0");
+        Probe.same("the short names of the first", probe.report("x: 1\n\tat x.n(S)"), "1");
+        probe.load("");
+        Probe.same("real names", probe.report("A: 3\n\tat A.m(Native Method)"), "0");
+        Probe.same("key(0)", probe.key(0), keyOf("A:0\nA.m\n"));
+        Probe.same("key(1)", probe.key(1), keyOf("x:0\nx.n\n"));
+        Probe.same("reports(0, 2)", probe.reports(0, 2), "4");
     }
 
     private static void printAndDoubtful() {

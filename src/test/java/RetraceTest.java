@@ -24,6 +24,7 @@ public final class RetraceTest {
         notDoubtful();
         doubtfulIsCounted();
         files();
+        renamedOnce();
         answers();
         nothingIsLeftOfOlderTraces();
         Probe.finish("RetraceTest");
@@ -292,6 +293,17 @@ public final class RetraceTest {
                 frame("Q -> x:\n    " + reals[i] + ".$ -> n", "x.n(S)", reals[i] + ".$" + file + ")");
             }
         }
+    }
+
+    private static void renamedOnce() {
+        Probe.sentence("Retracing: short ones become real ones, once: what is written is not looked at"
+                + " again, and what is real stays");
+        Probe probe = Probe.loaded("B -> A:\n    m -> n\n    n -> m\nC -> B:\n    D.o -> n\n"
+                + "A -> C:\n");
+        probe.retraces("A\n\tat A.n(S)\n\tat A.m(S)\n\tat B.n(S)\n\tat B.o(S)\n\tat C.n(S)\n"
+                + "\tat D.o(S)\nCaused by: B\nCaused by: C\nCaused by: D", "6",
+                "B\n\tat B.m(B.java)\n\tat B.n(B.java)\n\tat D.o(D.java)\n\tat C.o(C.java)\n"
+                + "\tat A.n(A.java)\n\tat D.o(S)\nCaused by: C\nCaused by: A\nCaused by: D\n");
     }
 
     private static void answers() {

@@ -25,6 +25,7 @@ public final class ShortenTest {
         firstWithoutRange();
         onlyTheClass();
         frameStays();
+        renamedOnce();
         answers();
         Probe.finish("ShortenTest");
     }
@@ -287,6 +288,19 @@ public final class ShortenTest {
         Probe.sentence("Shortening: otherwise the frame stays");
         frames(MAPPING, "b.Util.no(U) b.Util.no(U.java:7) x.a.a(Unknown_Source) x.b.c(Native_Method)",
                 "b.Util.no(U) b.Util.no(U.java:7) x.a.a(Unknown_Source) x.b.c(Native_Method)");
+    }
+
+    private static void renamedOnce() {
+        Probe.sentence("Shortening: real ones become short ones, once; a class that only calls have is"
+                + " not a real one of a class line");
+        Probe probe = Probe.loaded("B -> A:\n    m -> n\n    n -> m\nC -> B:\n    D.o -> n\n"
+                + "A -> C:\n    1:1:D.p:5 -> q\n");
+        probe.shortens("A\n\tat A.n(S)\n\tat B.m(S)\n\tat B.n(S)\n\tat C.n(S)\n\tat D.o(S)\n"
+                + "\tat D.p(S:5)\n\tat D.p(S:6)\n\tat D.n(S)\nCaused by: B\nCaused by: C\n"
+                + "Caused by: D", "8",
+                "C\n\tat C.n(SourceFile)\n\tat A.n(SourceFile)\n\tat A.m(SourceFile)\n"
+                + "\tat B.n(SourceFile)\n\tat B.n(SourceFile)\n\tat C.q(SourceFile:1)\n"
+                + "\tat D.p(S:6)\n\tat D.n(S)\nCaused by: A\nCaused by: B\nCaused by: D\n");
     }
 
     private static void answers() {
